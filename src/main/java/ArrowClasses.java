@@ -242,17 +242,12 @@ public final class ArrowClasses {
         }
 
         int reachOf(int u) {
-            return spread(1 << u, children);
-        }
-
-        /** The set and all that comes after it when one goes on by the rows of next. */
-        private int spread(int set, int[] next) {
-            int found = set;
+            int found = 1 << u;
             // A shortest way has fewer arrows than there are nodes.
             for (int round = 1; round < nodes; round++) {
                 for (int v = 0; v < nodes; v++) {
                     if (holds(found, v)) {
-                        found |= next[v];
+                        found |= children[v];
                     }
                 }
             }
@@ -293,12 +288,12 @@ public final class ArrowClasses {
 
         /**
          * The nodes to which some path from x goes that the set does not block. Ways that come to a node
-         * twice are followed too: to cut the round out never blocks the way. If the node meets only after
-         * the cut, the round left it by an arrow from it and came back against one, so the arrows turn on
-         * the round at a node that meets, and the node reaches what that one reaches.
+         * twice are followed too, which makes it enough to look at one node at a time: where a node meets
+         * that reaches the set, a way goes down to the set and back. And to cut a round out of an open way
+         * leaves it open: if the node meets only then, the round left it along an arrow and came back
+         * against one, so a node that it reaches met on the round.
          */
         int openFrom(int x, int set) {
-            int opened = spread(set, parents);
             int against = parents[x];
             int along = children[x];
             boolean grown = true;
@@ -307,11 +302,11 @@ public final class ArrowClasses {
                 int againstBefore = against;
                 int alongBefore = along;
                 for (int v = 0; v < nodes; v++) {
-                    boolean free = !holds(set, v);
-                    if (free && holds(against | along, v)) {
+                    boolean inside = holds(set, v);
+                    if (!inside && holds(against | along, v)) {
                         along |= children[v];
                     }
-                    if (free && holds(against, v) || holds(opened, v) && holds(along, v)) {
+                    if (holds(inside ? along : against, v)) {
                         against |= parents[v];
                     }
                 }

@@ -335,9 +335,8 @@ public final class PromisesTest {
         due("17: what follows from it is not counted", x.forget(), 1);
         due("17: forgotten", x.forget(), 0);
         due("17: members", x.members(), 4);
-        x.know(1, 0);
-        x.know(2, 1);
-        x.know(1, 0);
+        due("17: knows two falling", x.know(1, 0) && x.know(2, 1) && x.know(1, 0), true);
+        due("17: members of two falling", x.members(), 2);
         due("17: each once", x.forget(), 2);
         due("17: the other way may be known now", x.know(0, 1), true);
         x.turn(0, 1);
