@@ -92,16 +92,66 @@ public final class FaceTest {
         }
     }
 
+    private static List<Class<?>> allClasses() {
+        List<Class<?>> all = new ArrayList<>(List.of(ArrowClasses.class.getDeclaredClasses()));
+        all.add(ArrowClasses.class);
+        return all;
+    }
+
     private static void staticsAreConstants() {
-        for (Field field : ArrowClasses.class.getDeclaredFields()) {
-            int modifiers = field.getModifiers();
-            check(!Modifier.isStatic(modifiers) || Modifier.isFinal(modifiers) && field.getType() == int.class,
-                    field + " is static and no constant");
+        for (Class<?> one : allClasses()) {
+            for (Field field : one.getDeclaredFields()) {
+                int modifiers = field.getModifiers();
+                check(!Modifier.isStatic(modifiers) || Modifier.isFinal(modifiers) && field.getType() == int.class,
+                        field + " is static and no constant");
+            }
         }
+    }
+
+    /** Rule 11's numbers, but for the depth of calls, and rule 3's types as far as this program needs them. */
+    private static void sizesAreSmall() {
+        check(allClasses().size() <= 12, "there are more than 12 classes");
+        for (Class<?> one : allClasses()) {
+            int fields = 0;
+            for (Field field : one.getDeclaredFields()) {
+                Class<?> type = field.getType();
+                fields += Modifier.isStatic(field.getModifiers()) ? 0 : 1;
+                check(type == int.class || type == boolean.class || type == int[].class
+                        || allClasses().contains(type), field + " has another type");
+            }
+            check(fields <= 20, one + " has more than 20 fields");
+            for (Method method : one.getDeclaredMethods()) {
+                check(method.getParameterCount() <= 7, method + " has more than 7 parameters");
+            }
+        }
+    }
+
+    private static void methodsAreShort(String source) {
+        Pattern head = Pattern.compile("( {4}| {8})(?!if|for|while|do|switch|\\})\\S.*\\) \\{");
+        String end = "";
+        int begun = 0;
+        int methods = 0;
+        int number = 0;
+        for (String line : source.split("\n")) {
+            number++;
+            Matcher found = head.matcher(line);
+            if (found.matches()) {
+                end = found.group(1) + "}";
+                begun = number;
+                methods++;
+            }
+            if (begun != 0 && line.equals(end)) {
+                check(number - begun < 60, "a method has more than 60 lines up to line " + number);
+                begun = 0;
+            }
+            check(line.chars().noneMatch(c -> c > 255), "line " + number + " has a character above 255");
+        }
+        check(methods >= FACE.length - 1, "only " + methods + " methods were seen in the source");
     }
 
     private static void sourceIsPlain() throws IOException {
         String source = Files.readString(Path.of("src/main/java/ArrowClasses.java"));
+        methodsAreShort(source);
         String code = source.replaceAll("(?s)/\\*.*?\\*/", "").replaceAll("//[^\n]*", "");
         for (String word : FORBIDDEN) {
             boolean isWord = Character.isLetter(word.charAt(0));
@@ -118,6 +168,7 @@ public final class FaceTest {
         faceIsWhole();
         namesAreApart();
         staticsAreConstants();
+        sizesAreSmall();
         sourceIsPlain();
         System.out.println(wrong == 0 ? "the face and the source are as due" : wrong + " faults");
         if (wrong != 0) {
