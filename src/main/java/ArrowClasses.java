@@ -10,15 +10,16 @@ public final class ArrowClasses {
     private static final int MOST_ARROWS = 9;
 
     private final int nodes;
-    private final Graph graph;
     private final Kindred kindred;
+    /** The one that kindred looks at. */
+    private final Graph graph;
     /** NONE while nobody has asked since the drawn graph last changed. */
     private int separationCount;
 
     public ArrowClasses(int n) {
         nodes = n < FEWEST_NODES || n > MOST_NODES ? MOST_NODES : n;
-        graph = new Graph(nodes);
-        kindred = new Kindred(graph);
+        kindred = new Kindred(nodes);
+        graph = kindred.drawn;
         separationCount = NONE;
     }
 
@@ -322,7 +323,7 @@ public final class ArrowClasses {
      * pair has the highest bit, so that the first member is the one with the least code.
      */
     private static final class Kindred {
-        private final Graph drawn;
+        final Graph drawn;
         private final Graph tried;
         private final int[] lows;
         private final int[] highs;
@@ -337,9 +338,9 @@ public final class ArrowClasses {
         private int someFalling;
         private int allFalling;
 
-        Kindred(Graph drawn) {
-            this.drawn = drawn;
-            tried = new Graph(drawn.nodes);
+        Kindred(int nodes) {
+            drawn = new Graph(nodes);
+            tried = new Graph(nodes);
             lows = new int[MOST_ARROWS];
             highs = new int[MOST_ARROWS];
         }
